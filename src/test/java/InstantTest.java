@@ -20,9 +20,12 @@ public final class InstantTest {
         partlyKnown();
         locals();
         localStatusOfItsOwn();
+        localInSecondOfSequence();
+        localInLoopWithinLoop();
         localWithoutReaction();
         codeWithoutReaction();
         suspendUnknown();
+        suspendUnknownBesideAnExit();
         loopNotForSure();
         CHECK.end();
     }
@@ -201,6 +204,26 @@ public final class InstantTest {
         step("by the outer loop", desk, 1, 0, 0x40, 1);
     }
 
+    private static void localInSecondOfSequence() {
+        // loop local 5 ( present 0 (pause) (nothing); local 4 ( present 5 (emit 4) || present 4 (emit 6) (emit 7) )
+        //     || pause; emit 5 ): the sequence starts its second statement, and then the loop does too
+        ReactionDesk desk = Told.started(8, 0, 10, 5, 7, 0, 6, 0, 4, 0, 1, 0, 0, 0,
+            10, 4, 7, 0, 4, 5, 2, 4, 0, 0, 4, 4, 2, 6, 2, 7, 6, 0, 1, 0, 2, 5);
+        step("starts", desk, 1, 0, 0, 3);
+        step("present by the sequence, absent by the loop", desk, 0, 0, 0xC0, 2);
+        step("by the loop alone", desk, 0, 0, 0x80, 2);
+    }
+
+    private static void localInLoopWithinLoop() {
+        // loop local 5 ( trap loop ( local 4 ( present 5 (emit 4) || present 4 (emit 6) (emit 7) );
+        //     present 0 (pause) (exit) ) || pause; emit 5 ): the inner loop starts the local, then the outer one
+        ReactionDesk desk = Told.started(8, 0, 10, 5, 7, 0, 9, 0, 8, 0, 6, 0, 10, 4, 7, 0, 4, 5, 2, 4, 0, 0,
+            4, 4, 2, 6, 2, 7, 4, 0, 1, 0, 3, 0, 6, 0, 1, 0, 2, 5);
+        step("starts", desk, 1, 0, 0x80, 3);
+        step("present by the inner loop, absent by the outer", desk, 0, 0, 0xC0, 2);
+        step("by the outer loop alone", desk, 1, 0, 0x80, 3);
+    }
+
     private static void localWithoutReaction() {
         ReactionDesk desk = Told.started(10, 4, 4, 4, 2, 4, 0, 0);
         step("a local guess", desk, 0, 2, 0, 0);
@@ -233,6 +256,14 @@ public final class InstantTest {
         desk = Told.started(5, 4, 6, 0, 1, 0, 2, 5);
         step("starts", desk, 0, 0, 0, 1);
         step("it can't emit the test's signal", desk, 0, 1, 0x20, 0);
+    }
+
+    private static void suspendUnknownBesideAnExit() {
+        // trap ( trap ( suspend 4 (pause; exit of the outer) || pause; exit of the inner ); emit 4 )
+        ReactionDesk desk = Told.started(9, 0, 6, 0, 9, 0, 7, 0, 5, 4, 6, 0, 1, 0, 3, 1, 6, 0, 1, 0, 3, 0, 2, 4);
+        step("starts", desk, 0, 0, 0, 3);
+        step("if it stays, the inner exit counts, and 4 can be emitted", desk, 0, 2, 0, 3);
+        CHECK.same("unknown", Told.signals(desk, 2), 0x10);
     }
 
     private static void loopNotForSure() {

@@ -19,8 +19,10 @@ public final class PutTest {
         mostDepth();
         mostTraps();
         mostWeight();
+        lightestBeyondMostWeight();
         weights();
         clearing();
+        clearedPausesAreForgotten();
         countOfOthers();
         CHECK.end();
     }
@@ -242,6 +244,18 @@ public final class PutTest {
         CHECK.same("selected", desk.count(6), 8);
     }
 
+    private static void lightestBeyondMostWeight() {
+        ReactionDesk desk = comb(5);
+        Told.repeat(desk, 15, Told.LOOP, 0);
+        Told.add(desk, 7, 0, 7, 0, 7, 0, 0, 0, 0, 0, 7, 0, 0, 0, 0, 0, 7, 0, 7, 0, 0, 0, 0, 0, 0, 0);
+        Told.repeat(desk, 3, 7, 0, 7, 0, 0, 0, 0, 0, 7, 0, 0, 0, 0, 0);
+        Told.add(desk, 9, 0, 7, 0, 7, 0, 0, 0, 0, 0);
+        CHECK.same("359", desk.count(4), 359);
+        CHECK.same("to 360", desk.put(Told.NOTHING, 0), 1);
+        CHECK.same("to 361", desk.put(Told.NOTHING, 0), NONE);
+        counts("at weight 360", desk, 60, 1, 0, 15, 360);
+    }
+
     private static void weights() {
         ReactionDesk desk = Told.desk(6, 0, 6, 0, 0, 0, 0, 0, 6, 0, 0, 0, 0, 0);
         counts("sequences of sequences", desk, 7, 0, 0, 0, 12);
@@ -268,6 +282,16 @@ public final class PutTest {
         CHECK.same("instant", desk.instant(0), 1);
         CHECK.same("clear at the end", desk.clear(), 1);
         empty("cleared", desk);
+    }
+
+    private static void clearedPausesAreForgotten() {
+        ReactionDesk desk = Told.desk(6, 0, 1, 0, 1, 0);
+        desk.clear();
+        Told.add(desk, 6, 0, 0, 0, 6, 0, 1, 0, 2, 4);
+        desk.start();
+        CHECK.same("at the pause", desk.instant(0), 0);
+        CHECK.same("behind it", desk.instant(0), 1);
+        CHECK.same("emitted", desk.status(4), 1);
     }
 
     private static void countOfOthers() {
