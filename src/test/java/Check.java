@@ -6,6 +6,7 @@ final class Check {
     }
 
     private final String name;
+    private String words = "";
     private int asked;
     private int wrong;
 
@@ -13,11 +14,20 @@ final class Check {
         this.name = name;
     }
 
+    /** The words of the document that the next answers are asked for. */
+    void sentence(String quoted) {
+        words = " \"" + quoted + "\"";
+    }
+
     void same(String what, long got, long due) {
+        same(what, String.valueOf(got), String.valueOf(due));
+    }
+
+    void same(String what, String got, String due) {
         asked++;
-        if (got != due) {
+        if (!got.equals(due)) {
             wrong++;
-            System.out.println(name + ": " + what + " answered " + got + ", due is " + due);
+            System.out.println(name + words + ": " + what + " answered " + got + ", due is " + due);
         }
     }
 
@@ -37,7 +47,14 @@ final class Check {
             got = e.getClass().getSimpleName();
         }
         wrong++;
-        System.out.println(name + ": " + what + " threw " + got + ", due is " + due.getSimpleName());
+        System.out.println(name + words + ": " + what + " threw " + got + ", due is " + due.getSimpleName());
+    }
+
+    /** The call throws, and nothing that can be asked of the desk is changed by it. */
+    void refuses(String what, Class<? extends RuntimeException> due, ReactionDesk desk, Call call) {
+        String before = Told.seen(desk);
+        fails(what, due, call);
+        same(what + ", seen after it", Told.seen(desk), before);
     }
 
     boolean isRight() {
